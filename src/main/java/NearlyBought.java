@@ -204,8 +204,13 @@ public final class NearlyBought {
             return BAD;
         }
         for (int b = 0; b <= MOST_BREATHS; b++) {
-            int fairs = fairsTillHis(i, t, b);
-            if (fairs != NONE) {
+            trial.copyFrom(now);
+            if (b > 0) {
+                trial.addPause(i, t, b);
+            }
+            // What has gone stays whose it is, so nothing behind that FAIR can matter.
+            int fairs = trial.fairsTillGone(t);
+            if (trial.owner[t] == i) {
                 return what == 0 ? b : fairs;
             }
         }
@@ -261,11 +266,11 @@ public final class NearlyBought {
             return BAD;
         }
         if (what == 1) {
-            return wouldBeSeenWithout(NONE) ? 1 : 0;
+            return sights.allHoldIn(trial, NONE) ? 1 : 0;
         }
         int bits = 0;
         for (int i = 0; i < laid.persons; i++) {
-            if (wouldBeSeenWithout(i)) {
+            if (sights.allHoldIn(trial, i)) {
                 bits |= 1 << i;
             }
         }
@@ -366,22 +371,6 @@ public final class NearlyBought {
         history.size = 0;
         keptCount = 0;
         sights.size = 0;
-    }
-
-    /** Behind how many FAIRS the THING is the PERSON'S, if he PAUSED for b BREATHS now (0: did not). */
-    private int fairsTillHis(int i, int t, int b) {
-        trial.copyFrom(now);
-        if (b > 0) {
-            trial.addPause(i, t, b);
-        }
-        // What has gone stays whose it is, so nothing behind that FAIR can matter.
-        int fairs = trial.fairsTillGone(t);
-        return trial.owner[t] == i ? fairs : NONE;
-    }
-
-    private boolean wouldBeSeenWithout(int silent) {
-        trial.begin(silent);
-        return sights.allHoldIn(trial);
     }
 
     private int uncountedDraws(int i) {
@@ -853,8 +842,9 @@ public final class NearlyBought {
             }
         }
 
-        /** Holds the FAIRS of a Market that has just begun. */
-        boolean allHoldIn(Market market) {
+        /** Whether all would be so from the first on, had the silent PERSON (NONE: nobody) not PAUSED. */
+        boolean allHoldIn(Market market, int silent) {
+            market.begin(silent);
             for (int held = 1; held <= MOST_FAIRS; held++) {
                 market.holdFair();
                 for (int k = 0; k < size; k++) {

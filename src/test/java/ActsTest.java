@@ -10,6 +10,8 @@ public final class ActsTest {
         fairToTheLowest();
         fairOthersMustHaveDearer();
         fairDearestIsWhoseverItIs();
+        fairDearestOfAnyThing();
+        fairOfSix();
         fairEarns();
         fairLastYear();
         give();
@@ -131,6 +133,49 @@ public final class ActsTest {
         Check.fairs(y, 3);
         Check.due("another's counts", y.thing(0, 1), 2);
         Check.due("the rest", y.person(2, 1), 20);
+    }
+
+    private static void fairDearestOfAnyThing() {
+        for (int dear = 0; dear < 6; dear++) {
+            StringBuilder text = new StringBuilder("p0,0;p0,45;");
+            int missed = dear == 0 ? 5 : 0;
+            for (int t = 0; t < 6; t++) {
+                text.append(t == dear ? "t50;" : "t40;");
+            }
+            text.append("a0,").append(missed).append(",9,0;a1,").append(dear).append(",9,0;e0;g0;");
+            NearlyBought x = Check.laid(text.toString());
+            Check.fairs(x, 3);
+            Check.due("dearest is thing " + dear, x.thing(missed, 1), 1);
+            Check.due("its own price is not paid", x.person(1, 1), 5);
+        }
+    }
+
+    /** As many PERSONS, THINGS and PAUSES as can be told. */
+    private static void fairOfSix() {
+        NearlyBought x = Check.laid("p0,10;p0,10;p0,10;p0,10;p0,10;p0,60;t10;t10;t10;t10;t10;t20;"
+            + "a0,5,9,0;a1,4,9,0;a2,3,9,0;a3,2,9,0;a4,1,9,0;a5,0,9,0;a5,5,8,0;a4,0,8,0;a0,1,8,0;e0;g0;");
+        Check.due("seen(5, 5, 9)", x.seen(5, 5, 9), 1);
+        Check.due("never()", x.never(), 32);
+        Check.due("goes(5)", x.goes(5), Check.NONE);
+        Check.due("stop(5, 5, 0)", x.stop(5, 5, 0), 10);
+        Check.due("stop(5, 5, 1)", x.stop(5, 5, 1), 1);
+        Check.due("feigned(0)", x.feigned(0), 0);
+        Check.due("wanted(1)", x.wanted(1), 1);
+        Check.due("cheapest(5, 0)", x.cheapest(5, 0), 0);
+        Check.due("rank(5, 0)", x.rank(5, 0), 0);
+        Check.due("five", x.fair(), 5);
+        for (int t = 0; t < 5; t++) {
+            Check.due("whose", x.thing(t, 1), 5 - t);
+        }
+        Check.due("missed", x.thing(5, 2), 1);
+        Check.due("pause(5, 5, 30)", x.pause(5, 5, 30), 30);
+        Check.due("the last", x.fair(), 1);
+        Check.due("person(5, 2)", x.person(5, 2), 2);
+        Check.due("person(5, 3)", x.person(5, 3), 30 + 30);
+        Check.due("count(3)", x.count(3), 6);
+        Check.due("count(4)", x.count(4), 40);
+        Check.due("greens(9999, 9, 0)", x.greens(9999, 9, 0), 6);
+        Check.due("greens(9999, 9, 1)", x.greens(9999, 9, 1), 40);
     }
 
     private static void fairEarns() {

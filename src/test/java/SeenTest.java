@@ -9,6 +9,7 @@ public final class SeenTest {
         feignedIsFromTheFirst();
         feignedBehindJustSoMany();
         feignedByAll();
+        feignedLeavesNothingBehind();
         wrong();
         Check.end();
     }
@@ -100,6 +101,22 @@ public final class SeenTest {
         Check.due("not without", x.feigned(1), 0);
         x.seen(0, 1, 4);
         Check.due("not so early", x.feigned(0), 0);
+    }
+
+    /** What would be without one's PAUSES has no say in what would be with them. */
+    private static void feignedLeavesNothingBehind() {
+        for (int silent = 0; silent < 2; silent++) {
+            NearlyBought x = Check.laid("p0,99;p0,99;t10;t10;a0,0,9,3;a1,1,9,4;");
+            x.seen(silent, silent, 1);
+            Check.due("not so", x.feigned(0), 0);
+            Check.due("goes(0)", x.goes(0), 4);
+            Check.due("goes(1)", x.goes(1), 5);
+            Check.due("never()", x.never(), 0);
+            Check.due("greens", x.greens(0, 6, 0), 2);
+            Check.fairs(x, 4);
+            Check.due("thing 0", x.thing(0, 1), 0);
+            Check.due("told for year 4", x.thing(1, 3), 1);
+        }
     }
 
     private static void wrong() {

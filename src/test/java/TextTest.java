@@ -11,6 +11,7 @@ public final class TextTest {
         layBeginsAnew();
         layRefused();
         layLastEarnedAndDearerCount();
+        layForgetsTheOneBefore();
         Check.end();
     }
 
@@ -36,6 +37,7 @@ public final class TextTest {
         x.fair();
         Check.due("new: told for year 1, 0,1", x.nearly(0, 1, 0), 10);
         Check.due("new: told for year 0, 1,3", x.nearly(1, 3, 0), 9);
+        Check.due("new: told for year 0, 1,3", x.nearly(1, 3, 2), 0);
         Check.due("new: told for year 1, 2,1", x.nearly(2, 1, 0), 2);
         Check.due("new: dearer each year", x.thing(0, 0), 32);
         Check.due("new: earned", x.person(1, 1), 13);
@@ -202,5 +204,30 @@ public final class TextTest {
         x.fair();
         Check.due("the last e counts", x.person(0, 1), 4);
         Check.due("the last g counts", x.thing(0, 0), 5);
+    }
+
+    private static void layForgetsTheOneBefore() {
+        NearlyBought x = Check.laid("e7;g9;p0,1;p0,9;t40;t50;a0,0,9,0;a1,1,9,0;");
+        Check.fairs(x, 2);
+        x.pause(1, 0, 9);
+        x.wipe();
+        Check.put(x, "p0,1;p2,3;t40;t50;");
+        Check.due("lay()", x.lay(), 2);
+        Check.due("never missed", x.thing(0, 2), 0);
+        Check.due("never paused", x.nearly(1, 0, 0), 0);
+        Check.due("never paused", x.nearly(1, 0, 2), Check.NONE);
+        Check.due("nobody's claim", x.thing(1, 3), Check.NONE);
+        Check.due("coins", x.person(1, 1), 3);
+        x.fair();
+        Check.due("5 are earned again", x.person(0, 1), 6);
+        Check.due("2 dearer again", x.thing(0, 0), 42);
+        NearlyBought y = Check.laid("e7;g9;p0,99;t4;a0,0,9,0;");
+        y.fair();
+        y.wipe();
+        Check.put(y, "e30;g31;");
+        Check.due("fault()", y.fault(), 4);
+        Check.due("worth by the laid g", y.person(0, 3), 99 - 4 + 7 + 13);
+        y.fair();
+        Check.due("the laid e stays", y.person(0, 1), 109);
     }
 }

@@ -167,6 +167,15 @@ public final class WouldBeTest {
         x.pause(1, 2, 11);
         Check.due("two", x.wanted(0), 2);
         Check.due("two", x.wanted(1), 2);
+        x.pause(0, 1, 30);
+        x.pause(2, 1, 3);
+        Check.due("thing 1 now", x.wanted(0), 1);
+        Check.due("by two", x.wanted(1), 2);
+        x.pause(0, 0, 9);
+        x.pause(1, 0, 11);
+        x.pause(2, 0, 3);
+        Check.due("thing 0 now", x.wanted(0), 0);
+        Check.due("by three", x.wanted(1), 3);
         NearlyBought y = Check.laid("p0,0;t9;t9;a0,1,8,0;a0,1,9,1;");
         Check.due("nobody", y.wanted(0), 0);
         Check.due("nobody", y.wanted(1), 0);
