@@ -48,7 +48,7 @@ public final class ModelTest {
                 a[k] = wild(a[k], r);
             }
             String call = "run " + run + ", call " + calls + ": " + CALLS[which] + "(" + a[0] + ", " + a[1] + ", " + a[2] + ")";
-            Check.due(call, asked(x, CALLS[which], a), due(m, CALLS[which], a));
+            Check.due(call, Calls.ask(x, CALLS[which], a), due(m, CALLS[which], a));
         }
     }
 
@@ -132,37 +132,6 @@ public final class ModelTest {
         Check.due("fault() of " + s, x.fault(), m.fault());
         Check.due("lay() of " + s, x.lay(), m.lay());
         Check.due("count(4) behind lay() of " + s, x.count(4), m.count(4));
-    }
-
-    private static int asked(NearlyBought x, String call, int[] a) {
-        switch (call) {
-            case "write": return x.write(a[0]);
-            case "wipe": return x.wipe();
-            case "fault": return x.fault();
-            case "lay": return x.lay();
-            case "person": return x.person(a[0], a[1]);
-            case "thing": return x.thing(a[0], a[1]);
-            case "nearly": return x.nearly(a[0], a[1], a[2]);
-            case "pause": return x.pause(a[0], a[1], a[2]);
-            case "fair": return x.fair();
-            case "give": return x.give(a[0], a[1], a[2]);
-            case "undo": return x.undo();
-            case "behind": return x.behind(a[0], a[1]);
-            case "goes": return x.goes(a[0]);
-            case "never": return x.never();
-            case "stop": return x.stop(a[0], a[1], a[2]);
-            case "rank": return x.rank(a[0], a[1]);
-            case "wanted": return x.wanted(a[0]);
-            case "seen": return x.seen(a[0], a[1], a[2]);
-            case "forget": return x.forget();
-            case "feigned": return x.feigned(a[0]);
-            case "counts": return x.counts(a[0], a[1], a[2]);
-            case "cheapest": return x.cheapest(a[0], a[1]);
-            case "greens": return x.greens(a[0], a[1], a[2]);
-            case "keep": return x.keep();
-            case "back": return x.back();
-            default: return x.count(a[0]);
-        }
     }
 
     private static int due(Model m, String call, int[] a) {
