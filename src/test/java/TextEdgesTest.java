@@ -8,6 +8,7 @@ public final class TextEdgesTest {
         twoHundredLetters();
         theTwoHundredthIsRead();
         anItemThatIsCutIsNone();
+        oneLetterIsNoItem();
         lettersOfAscii();
         onlyFiveLettersBeginAnItem();
         oneOrTwoFigures();
@@ -102,6 +103,16 @@ public final class TextEdgesTest {
             faulty(pause.substring(0, cut), LEAST.length());
         }
         sound(pause);
+    }
+
+    /** The shortest ITEM has three letters: of one or two, the FAULT is the first. */
+    private static void oneLetterIsNoItem() {
+        for (char letter = 32; letter <= 126; letter++) {
+            faulty(String.valueOf(letter), 0);
+            faulty(letter + "5", 0);
+            faulty(letter + ";", 0);
+            faulty("t5;" + letter, 3);
+        }
     }
 
     /** "A letter (32 to 126, as in ASCII)". */
